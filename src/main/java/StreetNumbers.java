@@ -305,11 +305,7 @@ public final class StreetNumbers {
             return failing(BEYOND);
         }
         int answer = voices.answerOf(street.kind(h), h, street.m(h), voice, x);
-        if (voices.parted) {
-            return failing(PARTED);
-        }
-        voices.keepTrace();
-        return answer;
+        return voices.parted ? failing(PARTED) : answer;
     }
 
     public int body(int i) {
@@ -1099,31 +1095,22 @@ public final class StreetNumbers {
         boolean parted;
         int traced;
         private final int[] trace;
-        private final int[] begun;
-        private int beginnings;
         private int kind;
         private int k;
         private int m;
 
         Voices() {
             trace = new int[MOST_TRACE];
-            begun = new int[MOST_TRACE];
         }
 
-        /** What a HOUSE answers, unless parted is so then; THE TRACE stays until keepTrace. */
+        /** What a HOUSE answers, unless parted is so then; THE TRACE is of this voice, parted or not. */
         int answerOf(int houseKind, int number, int extra, int voice, int x) {
             kind = houseKind;
             k = number;
             m = extra;
             parted = false;
-            beginnings = 0;
+            traced = 0;
             return speak(houseKind, voice, x, 0);
-        }
-
-        // Not done while speaking: one that answers PARTED leaves THE TRACE as it was.
-        void keepTrace() {
-            System.arraycopy(begun, 0, trace, 0, MOST_TRACE);
-            traced = beginnings;
         }
 
         int bodyAt(int i) {
@@ -1144,11 +1131,15 @@ public final class StreetNumbers {
                 speaker = kindAbove(speaker);
             }
             int number = ownBody(speaker, voice);
-            if (beginnings < MOST_TRACE) {
-                begun[beginnings] = number;
-                beginnings++;
-            }
+            begin(number);
             return work(number, x, depth + 1);
+        }
+
+        private void begin(int number) {
+            if (traced >= 0 && traced < MOST_TRACE) {
+                trace[traced] = number;
+                traced++;
+            }
         }
 
         private int own(int voice, int x, int depth) {
@@ -1166,7 +1157,7 @@ public final class StreetNumbers {
                 case 12: return own(ANSWERS, x, depth) - m;
                 case 13: return partedBy(m - k, x);
                 case 20: return above(VILLA, RINGS, x, depth) - 4;
-                case 21: return villaParts(x, depth);
+                case 21: return above(VILLA, PARTS, x, depth) + own(ANSWERS, 1, depth);
                 case 30: return 0 - above(SHOP, ANSWERS, x, depth);
                 case 40: return above(CORNER, WAITS, x / 2, depth);
                 case 50: return above(MANOR, RINGS, x, depth) * 3;
@@ -1178,14 +1169,10 @@ public final class StreetNumbers {
             }
         }
 
+        // PARTED is of the answer alone: the BODIES around this one go on, and THE TRACE with them.
         private int partedBy(int by, int x) {
-            parted = by == 0;
+            parted = parted || by == 0;
             return quotient(x, by);
-        }
-
-        private int villaParts(int x, int depth) {
-            int parts = above(VILLA, PARTS, x, depth);
-            return parted ? 0 : parts + own(ANSWERS, 1, depth);
         }
     }
 

@@ -30,6 +30,7 @@ public final class Model {
         int m;
         int plate;
         List<Integer> trace;
+        boolean parted;
 
         int kind() { return 0; }
         int minds(int n) { return Math.abs(n - plate); }
@@ -42,7 +43,8 @@ public final class Model {
         int parts(int x) {
             begins(13);
             if (m - k == 0) {
-                throw new Failing(6);
+                parted = true;
+                return 0;
             }
             return (int) ((long) x / (m - k));
         }
@@ -678,6 +680,7 @@ public final class Model {
             Cottage one = house(h);
             within(voice, 0, 3);
             one.trace = new ArrayList<>();
+            one.parted = false;
             int answer;
             switch (voice) {
                 case 0: answer = one.rings(x); break;
@@ -686,6 +689,7 @@ public final class Model {
                 default: answer = one.parts(x); break;
             }
             trace = one.trace;
+            need(!one.parted, 6);
             return answer;
         });
     }

@@ -836,15 +836,36 @@ public final class PromiseTests {
         }
         StreetNumbers x = street(1);
         x.voice(0, 2, 1);
-        x.voice(0, 3, 1);
-        dueTrace(x, "one that parts changes nothing", 12, 11, 10);
         x.voice(1, 0, 1);
         x.voice(0, 4, 1);
         dueTrace(x, "one beyond changes nothing", 12, 11, 10);
+        traceOfParted(x);
         due("body -1", x.body(-1), NONE);
         for (int v : WILD) {
             due("wild body", x.body(v), NONE);
         }
+    }
+
+    /** HOUSE 0 with m 0 parts by 0: THE TRACE is of that voice(), though it answers an ERROR. */
+    private static void traceOfParted(StreetNumbers x) {
+        int[][] bodies = {{13}, {21, 13, 11, 20, 10}, {13}, {13}, {21, 13, 11, 50, 20, 10}, {13}, {13}};
+        for (int kind = 0; kind < 7; kind++) {
+            x.become(0, 10 * kind);
+            x.voice(0, 2, 1);
+            due("kind " + kind + " parts", x.voice(0, 3, 1), PARTED);
+            dueTrace(x, "one of kind " + kind + " that parted", bodies[kind]);
+            x.voice(0, 4, 1);
+            dueTrace(x, "one of kind " + kind + " that parted, then one beyond", bodies[kind]);
+        }
+        x.image();
+        x.voice(0, 0, 1);
+        x.restore();
+        dueTrace(x, "none comes back with an image", 70);
+        x.voice(0, 3, 1);
+        x.become(0, 5);
+        x.voice(0, 3, 1);
+        dueTrace(x, "one that answers, after one that parted", 13);
+        due("and it is no error", x.told(6), 8);
     }
 
     private static void p28Sheet() {
