@@ -1103,7 +1103,7 @@ public final class StreetNumbers {
             trace = new int[MOST_TRACE];
         }
 
-        /** What a HOUSE answers, unless parted is so then; THE TRACE is of this voice, parted or not. */
+        /** What a HOUSE answers, unless parted is so then; THE TRACE ends with the BODY that parted. */
         int answerOf(int houseKind, int number, int extra, int voice, int x) {
             kind = houseKind;
             k = number;
@@ -1123,7 +1123,8 @@ public final class StreetNumbers {
         }
 
         private int speak(int from, int voice, int x, int depth) {
-            if (depth > DEEPEST) {
+            // PARTED is all that there is then: no BODY begins after it, whichever stands around it.
+            if (parted || depth > DEEPEST) {
                 return 0;
             }
             int speaker = from;
@@ -1169,7 +1170,6 @@ public final class StreetNumbers {
             }
         }
 
-        // PARTED is of the answer alone: the BODIES around this one go on, and THE TRACE with them.
         private int partedBy(int by, int x) {
             parted = parted || by == 0;
             return quotient(x, by);
@@ -1236,11 +1236,12 @@ public final class StreetNumbers {
             }
         }
 
+        // As of an int, the highest of the lowest bits is the sign.
         private static int lowest(int v, int bits) {
             if (bits == 8) {
-                return v & 0xFF;
+                return (byte) v;
             }
-            return bits == 16 ? v & 0xFFFF : v;
+            return bits == 16 ? (short) v : v;
         }
     }
 }

@@ -30,7 +30,6 @@ public final class Model {
         int m;
         int plate;
         List<Integer> trace;
-        boolean parted;
 
         int kind() { return 0; }
         int minds(int n) { return Math.abs(n - plate); }
@@ -42,10 +41,7 @@ public final class Model {
         int waits(int x) { begins(12); return answers(x) - m; }
         int parts(int x) {
             begins(13);
-            if (m - k == 0) {
-                parted = true;
-                return 0;
-            }
+            need(m - k != 0, 6);
             return (int) ((long) x / (m - k));
         }
     }
@@ -55,7 +51,7 @@ public final class Model {
         @Override int minds(int n) { return super.minds(n) + (n % 100 == 13 ? 50 : 0); }
         @Override int front(int year) { return super.front(year) * 2; }
         @Override int rings(int x) { begins(20); return super.rings(x) - 4; }
-        @Override int parts(int x) { begins(21); int first = super.parts(x); return first + answers(1); }
+        @Override int parts(int x) { begins(21); return super.parts(x) + answers(1); }
     }
 
     private static class Shop extends Cottage {
@@ -679,18 +675,14 @@ public final class Model {
         return act(() -> {
             Cottage one = house(h);
             within(voice, 0, 3);
-            one.trace = new ArrayList<>();
-            one.parted = false;
-            int answer;
+            trace = new ArrayList<>();
+            one.trace = trace;
             switch (voice) {
-                case 0: answer = one.rings(x); break;
-                case 1: answer = one.answers(x); break;
-                case 2: answer = one.waits(x); break;
-                default: answer = one.parts(x); break;
+                case 0: return one.rings(x);
+                case 1: return one.answers(x);
+                case 2: return one.waits(x);
+                default: return one.parts(x);
             }
-            trace = one.trace;
-            need(!one.parted, 6);
-            return answer;
         });
     }
 
@@ -717,7 +709,9 @@ public final class Model {
         return act(() -> {
             long[] row = row(sheet);
             within(i, 0, row.length - 1);
-            row[i] = Math.floorMod((long) v, 1L << bits[sheet]);
+            long all = 1L << bits[sheet];
+            long low = Math.floorMod((long) v, all);
+            row[i] = low < all / 2 ? low : low - all;
             return 1;
         });
     }

@@ -846,9 +846,9 @@ public final class PromiseTests {
         }
     }
 
-    /** HOUSE 0 with m 0 parts by 0: THE TRACE is of that voice(), though it answers an ERROR. */
+    /** HOUSE 0 with m 0 parts by 0: THE TRACE is of that voice() and ends with the BODY that parted. */
     private static void traceOfParted(StreetNumbers x) {
-        int[][] bodies = {{13}, {21, 13, 11, 20, 10}, {13}, {13}, {21, 13, 11, 50, 20, 10}, {13}, {13}};
+        int[][] bodies = {{13}, {21, 13}, {13}, {13}, {21, 13}, {13}, {13}};
         for (int kind = 0; kind < 7; kind++) {
             x.become(0, 10 * kind);
             x.voice(0, 2, 1);
@@ -866,6 +866,11 @@ public final class PromiseTests {
         x.voice(0, 3, 1);
         dueTrace(x, "one that answers, after one that parted", 13);
         due("and it is no error", x.told(6), 8);
+        x.become(0, 10);
+        x.voice(0, 3, 1);
+        x.become(0, 15);
+        due("a villa that parts, after one that parted", x.voice(0, 3, 10), 2 + (1 - 4) * 2);
+        dueTrace(x, "all of its bodies", 21, 13, 11, 20, 10);
     }
 
     private static void p28Sheet() {
@@ -908,14 +913,12 @@ public final class PromiseTests {
         due("cut to 8 bits", x.put(0, 0, 256 + 77), 1);
         due("8 bits", x.plates(0), 1);
         due("plate", x.houseIs(0, 2), 77);
-        x.put(0, 0, 200);
-        x.plates(0);
-        due("200 in 8 bits", x.houseIs(0, 2), 200);
         due("cut to 16 bits", x.put(1, 0, -65536 + 300), 1);
         x.plates(1);
         due("16 bits", x.houseIs(0, 2), 300);
         due("32 bits", x.put(2, 0, 65536 + 300), 1);
         due("not cut", x.plates(2), 0);
+        p29Signs();
         due("missing", x.put(3, 0, 1), NONE);
         due("missing, no such number", x.put(3, -1, 1), NONE);
         due("sheet 4", x.put(4, 0, 1), BEYOND);
@@ -927,6 +930,33 @@ public final class PromiseTests {
             due("wild number", x.put(0, v, 1), BEYOND);
             due("wild v", x.put(0, 1, v), 1);
         }
+    }
+
+    /** Numbers of 8 and 16 bits have a sign, as those of 32 have, wherever they are looked at. */
+    private static void p29Signs() {
+        int[][] signed = {{8, 127, 1}, {8, 128, 0}, {8, 200, 0}, {8, 255, 0}, {8, -1, 0}, {8, 256, 0}, {8, 257, 1},
+            {8, -128, 0}, {8, -129, 1}, {16, 999, 1}, {16, 128, 1}, {16, 32768 + 5, 0}, {16, 65535, 0}, {16, -1, 0},
+            {16, 65536 + 5, 1}, {16, -65536 + 999, 1}, {32, -1, 0}, {32, 999, 1}};
+        for (int[] one : signed) {
+            StreetNumbers x = street(500);
+            sheetOf(x, 0, one[0], one[1]);
+            due("plates of " + one[1] + " in " + one[0] + " bits", x.plates(0), one[2]);
+            sheetOf(x, 1, one[0], 1);
+            x.move(0, 0, 1, 0, 1);
+            due("plates of it when it moved", x.plates(1), one[2]);
+        }
+        StreetNumbers x = street(300);
+        sheetOf(x, 0, 8, -1 + 256);
+        textOf(x, 0, "255");
+        due("harm of 255 doesn't fit 8 bits", x.fits(0, 0), 0);
+        sheetOf(x, 0, 16, 255);
+        due("it fits 16 bits", x.fits(0, 0), 50);
+        x = street(1, 2, 3, 4);
+        textOf(x, 1, "64");
+        sheetOf(x, 0, 8, 0, 64, 128, 192);
+        due("yards of 128 are not right in 8 bits", x.judge(0), 2);
+        sheetOf(x, 0, 16, 0, 64, 128, 192);
+        due("they are in 16 bits", x.judge(0), 4);
     }
 
     private static void p30Move() {
