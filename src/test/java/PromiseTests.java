@@ -1,14 +1,5 @@
 /** Each promise of the document: ordinary inputs, the edges that it names, wrong inputs. */
-public final class PromiseTests {
-    private static final int BEYOND = -1000000001;
-    private static final int NONE = -1000000002;
-    private static final int STATE = -1000000003;
-    private static final int FULL = -1000000004;
-    private static final int KIND = -1000000005;
-    private static final int PARTED = -1000000006;
-    private static final int MIN = Integer.MIN_VALUE;
-    private static final int MAX = Integer.MAX_VALUE;
-    private static final int[] WILD = {MIN, MIN + 1, -1000000000, -1, MAX - 1, MAX};
+public final class PromiseTests extends Given {
     private static final Checks checks = new Checks("PromiseTests");
 
     private static void due(String call, long got, long want) {
@@ -57,39 +48,6 @@ public final class PromiseTests {
         p37Count();
         p38Told();
         checks.end();
-    }
-
-    private static StreetNumbers street(int... plates) {
-        StreetNumbers x = new StreetNumbers();
-        for (int i = 0; i < plates.length; i++) {
-            x.build(0, i, plates[i]);
-        }
-        return x;
-    }
-
-    private static int feedAll(StreetNumbers x, String tape) {
-        int size = -1;
-        for (int from = 0; from < tape.length(); from += 8) {
-            int to = Math.min(tape.length(), from + 8);
-            long word = 0;
-            for (int i = to - 1; i >= from; i--) {
-                word = word << 8 | tape.charAt(i);
-            }
-            size = x.feed(word, to - from);
-        }
-        return size;
-    }
-
-    private static int textOf(StreetNumbers x, int use, String tape) {
-        feedAll(x, tape);
-        return x.text(use);
-    }
-
-    private static void sheetOf(StreetNumbers x, int sheet, int bits, int... numbers) {
-        x.sheet(sheet, bits, numbers.length);
-        for (int i = 0; i < numbers.length; i++) {
-            x.put(sheet, i, numbers[i]);
-        }
     }
 
     private static void p1New() {
