@@ -30,6 +30,7 @@ public final class NumberingEdges extends Given {
         fitsOfGaps();
         fitsWithoutOne();
         fitsOfNoHouses();
+        fitsOfMoreNumbers();
         sheetsOfFits();
         yearsOfLoose();
         lastYear();
@@ -507,6 +508,21 @@ public final class NumberingEdges extends Given {
         due("the tenth is amiss", y.fits(0, 0), 0);
         sheetOf(y, 0, 32, 65536);
         due("32 bits are not cut", y.fits(0, 0), 0);
+    }
+
+    /** A number for which there is no HOUSE tells HARM to none, whatever it is (NOTES.md). */
+    private static void fitsOfMoreNumbers() {
+        StreetNumbers x = tens(2);
+        StreetNumbers none = tens(0);
+        for (int number : new int[] {0, 1, 3, 18, 28, 30, 50, 150, 999, -1}) {
+            sheetOf(x, 0, 16, 4, 8, number);
+            due("a third number " + number + " to two HOUSES", x.fits(0, 0), 0);
+            due("the least of none", x.fits(0, 1), NONE);
+            sheetOf(none, 0, 16, number);
+            due("one number " + number + " to none", none.fits(0, 0), 0);
+        }
+        sheetOf(x, 0, 16, 4, 8);
+        due("two to two: by 6 and 14", x.fits(0, 0), 2);
     }
 
     /** SHEETS 0 .. 3; what 0, 1; BEYOND ahead of NONE. */

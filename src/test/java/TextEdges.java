@@ -128,6 +128,11 @@ public final class TextEdges extends Given {
         due("one more", x.feed('0', 1), 60);
         due("text of 60", x.text(0), 1);
         due("ends with 10", x.law(0, 1, 0, 0), 39);
+        due("60 bytes, each a number, a NAME or a sign", textOf(x, 0, "!h" + "+h".repeat(29)), 1);
+        due("all are worked out", x.law(0, 5, 0, 0), 145);
+        due("the first of them, too", x.law(0, 0, 0, 0), 1);
+        due("60 bytes, the last a NAME", textOf(x, 0, "!1" + "+0".repeat(28) + "-o"), 1);
+        due("it is worked out", x.law(0, 0, 0, -7), 7);
     }
 
     /** feed: BEYOND. FULL. */
@@ -198,7 +203,10 @@ public final class TextEdges extends Given {
         due("there was one", x.untell(0), 1);
     }
 
-    /** FAULT: the place of the first byte with which no TEXT goes on; how many there are, if it ends too early. */
+    /**
+     * FAULT: the place of the first byte with which no TEXT goes on; how many there are, if it ends too early.
+     * By the grammar alone, also at the end of a full TAPE (NOTES.md).
+     */
     private static void faultsAtTheEnds() {
         String most = "h" + "+1".repeat(29);
         due("too early, 0 bytes", textOf(new StreetNumbers(), 0, ""), -10);

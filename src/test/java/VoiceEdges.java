@@ -502,6 +502,11 @@ public final class VoiceEdges extends Given {
         sheetOf(y, 0, 8, 0, 12);
         due("by PLACE, not by HOUSE", y.judge(0), 2);
         due("PLATES stay", y.houseIs(0, 2), 1);
+        sheetOf(y, 0, 8, 0, 12, 23);
+        due("a number for which there is no HOUSE isn't right (NOTES.md)", y.judge(0), 2);
+        StreetNumbers none = new StreetNumbers();
+        sheetOf(none, 0, 8, 0, 0);
+        due("no HOUSES (NOTES.md)", none.judge(0), 0);
     }
 
     /** How often that was done: not kept, not told anew by restore(). */
